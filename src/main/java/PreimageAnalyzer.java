@@ -104,7 +104,7 @@ public final class PreimageAnalyzer {
     public int append(int packed) throws IllegalArgumentException, IllegalStateException {
         int added = 0;
         for (int shift = 24; shift >= 0; shift -= 8) {
-            int sign = packed >>> shift & 255;
+            int sign = byteAt(packed, shift);
             if (sign != 0 && (sign < 33 || sign > 126)) {
                 throw new IllegalArgumentException("a byte is no visible character");
             }
@@ -114,7 +114,7 @@ public final class PreimageAnalyzer {
             throw new IllegalStateException("the buffer is full");
         }
         for (int shift = 24; shift >= 0; shift -= 8) {
-            int sign = packed >>> shift & 255;
+            int sign = byteAt(packed, shift);
             if (sign != 0) {
                 formula.add(sign);
             }
@@ -388,7 +388,7 @@ public final class PreimageAnalyzer {
         return rule.numberOf(rule.table);
     }
 
-    // Tests of arguments.
+    // Tests of arguments, and what several calls need.
 
     private static void needRegister(int register) {
         if (register < 0 || register >= REGISTERS) {
@@ -425,6 +425,10 @@ public final class PreimageAnalyzer {
         if (search.length == 0) {
             throw new NoSuchElementException("there is no inverse");
         }
+    }
+
+    private static int byteAt(int packed, int shift) {
+        return packed >>> shift & 255;
     }
 
     private void takeLabels(int register) {
@@ -1317,7 +1321,6 @@ public final class PreimageAnalyzer {
         }
 
         private void readSteps(Rule rule) {
-            Arrays.fill(reachable, 0);
             for (int p = 0; p < rule.nodes; p++) {
                 for (int q = 0; q <= p; q++) {
                     reachable[placeOf(p, q)] = stepsFrom(rule, p * rule.states, q * rule.states);

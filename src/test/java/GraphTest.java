@@ -195,47 +195,46 @@ public final class GraphTest {
     }
 
     /** The inverse has this length and position, and gives the cells of words back from their images. */
-    private static void inverseIs(PreimageAnalyzer x, int length, int position) {
-        Check.due("inverse(0)", length, x.inverse(0));
-        Check.due("inverse(1)", position, x.inverse(1));
-        int longer = length + x.size(1) - 1;
-        int words = Model.power(x.size(0), longer);
-        for (int i = 0; i < words; i++) {
-            x.setWord(0, longer, i);
-            int cell = x.cell(0, position);
-            x.apply(0, false);
-            Check.due("inverseOutput of an image", cell, x.inverseOutput(x.wordIndex(0)));
+    private static void inverseIs(int states, int width, long number, int length, int position) {
+        PreimageAnalyzer x = Check.numbered(states, width, number);
+        Check.due("inverse(0) of " + number, length, x.inverse(0));
+        Check.due("inverse(1) of " + number, position, x.inverse(1));
+        int longer = length + width - 1;
+        for (int i = 0; i < Model.power(states, longer); i++) {
+            PreimageAnalyzer y = Check.numbered(states, width, number);
+            y.setWord(0, longer, i);
+            int cell = y.cell(0, position);
+            y.apply(0, false);
+            Check.due("inverseOutput of an image", cell, y.inverseOutput(y.wordIndex(0)));
         }
-        int images = Model.power(x.size(0), length);
-        for (int index : new int[] {-1, images, FAR[0], FAR[1]}) {
+        for (int index : new int[] {-1, Model.power(states, length), FAR[0], FAR[1]}) {
             Check.refuses(x, "inverseOutput(" + index + ")", Check.INDEX, () -> x.inverseOutput(index));
         }
     }
 
     private static void inverse() {
-        inverseIs(Check.numbered(2, 3, 15), 1, 0);
-        inverseIs(Check.numbered(2, 3, 51), 1, 1);
-        inverseIs(Check.numbered(2, 3, 170), 1, 2);
-        inverseIs(Check.numbered(2, 2, 5), 1, 1);
-        inverseIs(Check.numbered(2, 4, 3915), 4, 2);
-        inverseIs(Check.numbered(2, 4, 13155), 4, 4);
-        inverseIs(Check.numbered(3, 2, 481), 2, 0);
-        inverseIs(Check.numbered(3, 2, 3791), 2, 2);
-        inverseIs(Check.numbered(3, 3, 3409860962573L), 2, 1);
-        inverseIs(Check.numbered(3, 3, 7479518722299L), 3, 2);
-        inverseIs(Check.numbered(3, 3, 277206005791L), 4, 3);
-        inverseIs(Check.numbered(3, 3, 4399383168795L), 4, 5);
+        inverseIs(2, 3, 15, 1, 0);
+        inverseIs(2, 3, 51, 1, 1);
+        inverseIs(2, 3, 170, 1, 2);
+        inverseIs(2, 2, 5, 1, 1);
+        inverseIs(2, 4, 3915, 4, 2);
+        inverseIs(2, 4, 13155, 4, 4);
+        inverseIs(3, 2, 481, 2, 0);
+        inverseIs(3, 2, 3791, 2, 2);
+        inverseIs(3, 3, 3409860962573L, 2, 1);
+        inverseIs(3, 3, 7479518722299L, 3, 2);
+        inverseIs(3, 3, 277206005791L, 4, 3);
+        inverseIs(3, 3, 4399383168795L, 4, 5);
+        inverseIs(3, 3, 7378808159385L, 5, 2);
+        inverseIs(3, 3, 6501678619707L, 5, 4);
     }
 
     /** With two states and width 4, an inverse exists for just the injective rules. */
     private static void inverseOfAllRules() {
-        PreimageAnalyzer x = Check.sized(2, 4);
         for (int number = 0; number < 65536; number++) {
-            x.setNumber(number);
+            PreimageAnalyzer x = Check.numbered(2, 4, number);
             boolean found = !Check.answer(() -> x.inverse(0)).startsWith("throws");
-            if (found != x.has(1)) {
-                Check.due("an inverse of " + number, x.has(1), found);
-            }
+            Check.due("an inverse of " + number, x.has(1), found);
         }
     }
 
@@ -250,6 +249,11 @@ public final class GraphTest {
             Check.refuses(x, "inverseOutput(0)", Check.ELEMENT, () -> x.inverseOutput(0));
             Check.refuses(x, "inverseOutput(-1)", Check.ELEMENT, () -> x.inverseOutput(-1));
         }
+        // An injective rule whose inverse is longer than 5.
+        PreimageAnalyzer longer = Check.numbered(3, 3, 5779933715169L);
+        Check.due("has(1)", true, longer.has(1));
+        Check.refuses(longer, "inverse(0)", Check.ELEMENT, () -> longer.inverse(0));
+        Check.refuses(longer, "inverseOutput(0)", Check.ELEMENT, () -> longer.inverseOutput(0));
         PreimageAnalyzer y = Check.numbered(2, 3, 51);
         Check.due("inverseOutput(0) of 51", 1, y.inverseOutput(0));
         y.setNumber(30);

@@ -179,9 +179,10 @@ public final class PreimagesTest {
         Check.due("wordsWith(5, 0)", 1, x.wordsWith(5, 0));
         Check.due("wordsWith(5, -1)", 0, x.wordsWith(5, -1));
         Check.due("wordsWith(5, 1000)", 0, x.wordsWith(5, 1000));
+        wordsWithBehindThreeStates();
         int words = 0;
         int preimages = 0;
-        for (int count = 0; count <= 512; count++) {
+        for (int count = 0; count <= 128; count++) {
             int found = x.wordsWith(7, count);
             words += found;
             preimages += found * count;
@@ -194,6 +195,21 @@ public final class PreimagesTest {
         for (int length : new int[] {-1, 8, Integer.MIN_VALUE, Integer.MAX_VALUE}) {
             Check.refuses(x, "wordsWith(" + length + ", 1)", Check.ARGUMENT, () -> x.wordsWith(length, 1));
         }
+    }
+
+    /** What a call with three states leaves in the rows must not count for two. */
+    private static void wordsWithBehindThreeStates() {
+        PreimageAnalyzer x = Check.sized(3, 3);
+        x.setWord(0, 14, 4782968);
+        x.preimageCount(0, false);
+        x.setSize(2, 3);
+        x.setNumber(90);
+        Check.due("wordsWith(7, 4) of 90", 128, x.wordsWith(7, 4));
+        x.setSize(3, 3);
+        x.setWord(0, 14, 4782968);
+        x.preimageCount(0, false);
+        x.setSize(2, 2);
+        Check.due("mostPreimages(7) of a constant", 256, x.mostPreimages(7));
     }
 
     private static void mostPreimages() {

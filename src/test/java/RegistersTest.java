@@ -108,6 +108,10 @@ public final class RegistersTest {
         // The neighborhoods are 1011, 0110 and 1101.
         y.apply(3, true);
         Check.due("wordIndex(3)", 0b011, y.wordIndex(3));
+        PreimageAnalyzer wide = Check.formed(2, 4, "d");
+        wide.setWord(0, 14, 0b11000000000101);
+        Check.due("apply(0, true) of the longest word and width", 14, wide.apply(0, true));
+        Check.due("wordIndex(0)", 0b00000000101110, wide.wordIndex(0));
         PreimageAnalyzer z = Check.formed(3, 3, "c");
         z.setWord(2, 14, 1);
         Check.due("apply(2, true) of the longest word", 14, z.apply(2, true));
@@ -155,8 +159,8 @@ public final class RegistersTest {
     }
 
     private static void longOrbit() {
-        PreimageAnalyzer x = Check.formed(3, 2, "b+1-(a=1)*(b=2)");
         for (int index = 0; index < 6561; index += 97) {
+            PreimageAnalyzer x = Check.formed(3, 2, "b+1-(a=1)*(b=2)");
             x.setWord(0, 8, index);
             int before = x.orbit(0, 0);
             int between = x.orbit(0, 1);

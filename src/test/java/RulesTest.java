@@ -46,8 +46,8 @@ public final class RulesTest {
         Check.due("number after setSize to the same size", 0, x.number());
         x.setNumber(77);
         x.setWord(1, 3, 20);
-        int[][] wrong = {{1, 2}, {1, 3}, {2, 1}, {2, 5}, {3, 1}, {3, 4}, {4, 2}, {4, 3}, {0, 0}, {-2, 3}, {3, -3}, {2, 0},
-            {Integer.MAX_VALUE, 2}, {2, Integer.MIN_VALUE}, {Integer.MIN_VALUE, Integer.MAX_VALUE}};
+        int[][] wrong = {{1, 2}, {1, 3}, {2, 1}, {2, 5}, {3, 1}, {3, 4}, {4, 2}, {4, 3}, {0, 0}, {-2, 3}, {3, -3},
+            {2, 0}, {Integer.MAX_VALUE, 2}, {2, Integer.MIN_VALUE}, {Integer.MIN_VALUE, Integer.MAX_VALUE}};
         for (int[] size : wrong) {
             Check.refuses(x, "setSize(" + size[0] + ", " + size[1] + ")", Check.ARGUMENT,
                     () -> x.setSize(size[0], size[1]));

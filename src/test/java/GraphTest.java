@@ -64,6 +64,8 @@ public final class GraphTest {
         Check.due("orphans(1) of a constant", 2, constant.orphans(1));
         Check.due("orphans(12) of a constant", 531440, constant.orphans(12));
         Check.due("orphans(12) of a surjective rule", 0, Check.numbered(2, 3, 90).orphans(12));
+        // Counted by trying all words of 14 cells; all 512 sets of nodes can be reached.
+        Check.due("orphans(12) with all subsets", 17, Check.numbered(3, 3, 5986202329676L).orphans(12));
         Model model = new Model();
         model.setSize(3, 2);
         model.setNumber(879);

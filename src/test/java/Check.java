@@ -6,8 +6,12 @@ final class Check {
     static final Class<ArithmeticException> ARITHMETIC = ArithmeticException.class;
     static final Class<java.util.NoSuchElementException> ELEMENT = java.util.NoSuchElementException.class;
 
+    static final int[][] SIZES = {{2, 2}, {2, 3}, {2, 4}, {3, 2}, {3, 3}};
+
     private static int checks = 0;
     private static int wrong = 0;
+    /** What the checks are about, to be printed before what is wrong. */
+    private static String topic = "";
 
     private Check() {
     }
@@ -16,23 +20,35 @@ final class Check {
         long run();
     }
 
+    interface CallWith {
+        long run(int value);
+    }
+
+    interface Asking {
+        long ask(PreimageAnalyzer x);
+    }
+
+    static int checksSoFar() {
+        return checks;
+    }
+
+    static void setTopic(String text) {
+        topic = text;
+    }
+
     static void due(String what, long want, long got) {
-        checks++;
-        if (got != want) {
-            wrong++;
-            System.out.println(what + " answered " + got + ", due is " + want);
-        }
+        due(what, Long.toString(want), Long.toString(got));
     }
 
     static void due(String what, boolean want, boolean got) {
-        due(what, want ? 1 : 0, got ? 1 : 0);
+        due(what, Boolean.toString(want), Boolean.toString(got));
     }
 
     static void due(String what, String want, String got) {
         checks++;
         if (!want.equals(got)) {
             wrong++;
-            System.out.println(what + " answered " + got + ", due is " + want);
+            System.out.println(topic + what + " answered " + got + ", due is " + want);
         }
     }
 
@@ -48,11 +64,23 @@ final class Check {
         due("the state after " + what, before, stateOf(x));
     }
 
+    /** The call refuses all values beside and far off low to high, and leaves the state as it was. */
+    static void refusesOutside(PreimageAnalyzer x, int low, int high, String name,
+            Class<? extends RuntimeException> want, CallWith call) {
+        int[] outside = {low - 1, low - 2, high + 1, high + 2, high + 256, low - 65536, Integer.MIN_VALUE,
+            Integer.MIN_VALUE + low, Integer.MAX_VALUE, Integer.MAX_VALUE - high};
+        for (int value : outside) {
+            refuses(x, name + " with " + value, want, () -> call.run(value));
+        }
+    }
+
+    /** What a call answers or throws; what the machine throws is told apart from what the class throws. */
     static String answer(Call call) {
         try {
             return Long.toString(call.run());
         } catch (RuntimeException e) {
-            return "throws " + e.getClass().getName();
+            boolean byMachine = e instanceof ArithmeticException && "/ by zero".equals(e.getMessage());
+            return (byMachine ? "the machine throws " : "throws ") + e.getClass().getName();
         }
     }
 
@@ -76,6 +104,23 @@ final class Check {
         for (int i = 0; i < text.length(); i++) {
             x.append(text.charAt(i));
         }
+    }
+
+    /** The number whose digits in the base are the cells, the first one being the most significant. */
+    static int index(int base, int... cells) {
+        int index = 0;
+        for (int cell : cells) {
+            index = index * base + cell;
+        }
+        return index;
+    }
+
+    static int pack(String text) {
+        int packed = 0;
+        for (int i = 0; i < text.length(); i++) {
+            packed = packed << 8 | text.charAt(i);
+        }
+        return packed;
     }
 
     static PreimageAnalyzer sized(int states, int width) {

@@ -14,14 +14,6 @@ public final class FormulasTest {
         Check.end();
     }
 
-    private static int pack(String text) {
-        int packed = 0;
-        for (int i = 0; i < text.length(); i++) {
-            packed = packed << 8 | text.charAt(i);
-        }
-        return packed;
-    }
-
     private static void append() {
         PreimageAnalyzer x = new PreimageAnalyzer();
         Check.due("append(0)", 0, x.append(0));
@@ -31,7 +23,7 @@ public final class FormulasTest {
         Check.due("append of =1 with a gap", 5, x.append('=' << 16 | '1'));
         Check.due("compile() of a+b=1", 4, x.compile());
         Check.due("number()", 60, x.number());
-        Check.due("append of four", 4, x.append(pack("!a=b")));
+        Check.due("append of four", 4, x.append(Check.pack("!a=b")));
         Check.due("append of the least and the greatest", 6, x.append('!' << 8 | '~'));
         int[] wrong = {32, 127, 128, 255, 1, -1, 0x20000000, 0x7f000000, 0x80000000, 0x61620a63, 0x61ff6161, 0x00001f00,
             0x61616120, Integer.MIN_VALUE, Integer.MAX_VALUE};
@@ -43,12 +35,12 @@ public final class FormulasTest {
     private static void fullBuffer() {
         PreimageAnalyzer x = new PreimageAnalyzer();
         for (int i = 1; i <= 9; i++) {
-            Check.due("append", 4 * i, x.append(pack("a+b+")));
+            Check.due("append", 4 * i, x.append(Check.pack("a+b+")));
         }
-        Check.due("append to 38", 38, x.append(pack("a+")));
-        Check.refuses(x, "append to 41", Check.STATE, () -> x.append(pack("a+b")));
-        Check.refuses(x, "append to 42 with a wrong byte", Check.ARGUMENT, () -> x.append(pack("a+b ")));
-        Check.due("append to 40", 40, x.append(pack("b+") << 16));
+        Check.due("append to 38", 38, x.append(Check.pack("a+")));
+        Check.refuses(x, "append to 41", Check.STATE, () -> x.append(Check.pack("a+b")));
+        Check.refuses(x, "append to 42 with a wrong byte", Check.ARGUMENT, () -> x.append(Check.pack("a+b ")));
+        Check.due("append to 40", 40, x.append(Check.pack("b+") << 16));
         Check.due("append of nothing to 40", 40, x.append(0));
         Check.refuses(x, "append to 41", Check.STATE, () -> x.append('a'));
         Check.fails("compile() of 40 signs without end", Check.ARGUMENT, x::compile);
@@ -56,68 +48,54 @@ public final class FormulasTest {
         Check.due("append to the empty buffer", 1, x.append('a'));
     }
 
-    /** The outputs that a formula gives for all neighborhoods in their order. */
-    private static void gives(int states, int width, String text, String outputs) {
-        PreimageAnalyzer x = Check.sized(states, width);
-        Check.write(x, text);
-        Check.due("compile() of " + text, outputs.replace("0", "").length(), x.compile());
-        StringBuilder got = new StringBuilder();
-        for (int i = 0; i < x.size(2); i++) {
-            got.append(x.output(i));
-        }
-        Check.due(text, outputs, got.toString());
-        Check.due("error(0) of " + text, 0, x.error(0));
-        Check.due("error(1) of " + text, -1, x.error(1));
-    }
-
     private static void values() {
-        gives(2, 2, "a", "0011");
-        gives(2, 2, "b", "0101");
-        gives(2, 3, "c", "01010101");
-        gives(2, 4, "d", "0101010101010101");
-        gives(2, 4, "c", "0011001100110011");
-        gives(3, 2, "a", "000111222");
-        gives(3, 2, "a+b", "012120201");
-        gives(3, 2, "a-b", "021102210");
-        gives(3, 2, "0-a-b", "021210102");
-        gives(3, 2, "a*b", "000012021");
-        gives(3, 2, "a/2+b", "012012120");
-        gives(3, 2, "a%2+b", "012120012");
-        gives(3, 2, "a=b", "100010001");
-        gives(3, 2, "a<b", "011001000");
-        gives(3, 2, "!a+b", "120012012");
-        gives(3, 2, "!!a", "000111111");
-        gives(3, 2, "!(a=b)", "011101110");
-        gives(3, 2, "min(a,b)", "000011012");
-        gives(3, 2, "max(a,b)", "012112222");
-        gives(3, 2, "min(a,b)+max(a,b)", "012120201");
-        gives(3, 2, "9-a-b", "021210102");
-        gives(3, 2, "9-(a-b)", "012201120");
-        gives(3, 2, "8/4/2+0*a", "111111111");
-        gives(3, 2, "8/(4/2)", "111111111");
-        gives(3, 2, "2+2*2", "000000000");
-        gives(3, 2, "(2+2)*2", "222222222");
-        gives(3, 2, "7%4*2", "000000000");
-        gives(3, 2, "2*7%4", "222222222");
-        gives(3, 2, "1+1=2", "111111111");
-        gives(3, 2, "(0<1)=1", "111111111");
-        gives(3, 2, "1<1+1", "111111111");
-        gives(3, 2, "(0-7)/2", "000000000");
-        gives(3, 2, "(0-7)%4", "000000000");
-        gives(3, 2, "(0-8)/3", "111111111");
-        gives(3, 2, "(0-8)%3", "111111111");
-        gives(3, 2, "max(0-1,0-2)", "222222222");
-        gives(3, 2, "min(a=b,b<a)+1", "111111111");
-        gives(3, 2, "max(min(a,1),min(b,1))", "011111111");
-        gives(3, 2, "!a*!b+!0", "211111111");
-        gives(2, 2, "!a=b", "0110");
-        gives(2, 2, "a+a+a+b", "0110");
+        FormulaCheck.gives(2, 2, "a", "0011");
+        FormulaCheck.gives(2, 2, "b", "0101");
+        FormulaCheck.gives(2, 3, "c", "01010101");
+        FormulaCheck.gives(2, 4, "d", "0101010101010101");
+        FormulaCheck.gives(2, 4, "c", "0011001100110011");
+        FormulaCheck.gives(3, 2, "a", "000111222");
+        FormulaCheck.gives(3, 2, "a+b", "012120201");
+        FormulaCheck.gives(3, 2, "a-b", "021102210");
+        FormulaCheck.gives(3, 2, "0-a-b", "021210102");
+        FormulaCheck.gives(3, 2, "a*b", "000012021");
+        FormulaCheck.gives(3, 2, "a/2+b", "012012120");
+        FormulaCheck.gives(3, 2, "a%2+b", "012120012");
+        FormulaCheck.gives(3, 2, "a=b", "100010001");
+        FormulaCheck.gives(3, 2, "a<b", "011001000");
+        FormulaCheck.gives(3, 2, "!a+b", "120012012");
+        FormulaCheck.gives(3, 2, "!!a", "000111111");
+        FormulaCheck.gives(3, 2, "!(a=b)", "011101110");
+        FormulaCheck.gives(3, 2, "min(a,b)", "000011012");
+        FormulaCheck.gives(3, 2, "max(a,b)", "012112222");
+        FormulaCheck.gives(3, 2, "min(a,b)+max(a,b)", "012120201");
+        FormulaCheck.gives(3, 2, "9-a-b", "021210102");
+        FormulaCheck.gives(3, 2, "9-(a-b)", "012201120");
+        FormulaCheck.gives(3, 2, "8/4/2+0*a", "111111111");
+        FormulaCheck.gives(3, 2, "8/(4/2)", "111111111");
+        FormulaCheck.gives(3, 2, "2+2*2", "000000000");
+        FormulaCheck.gives(3, 2, "(2+2)*2", "222222222");
+        FormulaCheck.gives(3, 2, "7%4*2", "000000000");
+        FormulaCheck.gives(3, 2, "2*7%4", "222222222");
+        FormulaCheck.gives(3, 2, "1+1=2", "111111111");
+        FormulaCheck.gives(3, 2, "(0<1)=1", "111111111");
+        FormulaCheck.gives(3, 2, "1<1+1", "111111111");
+        FormulaCheck.gives(3, 2, "(0-7)/2", "000000000");
+        FormulaCheck.gives(3, 2, "(0-7)%4", "000000000");
+        FormulaCheck.gives(3, 2, "(0-8)/3", "111111111");
+        FormulaCheck.gives(3, 2, "(0-8)%3", "111111111");
+        FormulaCheck.gives(3, 2, "max(0-1,0-2)", "222222222");
+        FormulaCheck.gives(3, 2, "min(a=b,b<a)+1", "111111111");
+        FormulaCheck.gives(3, 2, "max(min(a,1),min(b,1))", "011111111");
+        FormulaCheck.gives(3, 2, "!a*!b+!0", "211111111");
+        FormulaCheck.gives(2, 2, "!a=b", "0110");
+        FormulaCheck.gives(2, 2, "a+a+a+b", "0110");
         // 9^10 = 3486784401 is -808182895 as an int, and 2 * 8^10 is the least int.
-        gives(3, 2, "9*9*9*9*9*9*9*9*9*9", "222222222");
-        gives(2, 2, "0<9*9*9*9*9*9*9*9*9*9", "0000");
-        gives(3, 2, "8*8*8*8*8*8*8*8*8*8*2", "111111111");
-        gives(3, 2, "8*8*8*8*8*8*8*8*8*8*2/(0-1)", "111111111");
-        gives(3, 2, "8*8*8*8*8*8*8*8*8*8*2%(0-1)", "000000000");
+        FormulaCheck.gives(3, 2, "9*9*9*9*9*9*9*9*9*9", "222222222");
+        FormulaCheck.gives(2, 2, "0<9*9*9*9*9*9*9*9*9*9", "0000");
+        FormulaCheck.gives(3, 2, "8*8*8*8*8*8*8*8*8*8*2", "111111111");
+        FormulaCheck.gives(3, 2, "8*8*8*8*8*8*8*8*8*8*2/(0-1)", "111111111");
+        FormulaCheck.gives(3, 2, "8*8*8*8*8*8*8*8*8*8*2%(0-1)", "000000000");
     }
 
     private static void compileChanges() {
@@ -132,20 +110,6 @@ public final class FormulasTest {
         Check.due("compile() of the same rule", 0, x.compile());
     }
 
-    /** The formula has an error of a kind at a place; the table stays, the buffer is empty. */
-    private static void faults(int states, int width, String text, int kind, int place) {
-        PreimageAnalyzer x = Check.sized(states, width);
-        x.setOutput(1, 1);
-        x.setWord(3, 2, 2);
-        Check.write(x, text);
-        Check.fails("compile() of " + text, kind < 4 ? Check.ARGUMENT : Check.ARITHMETIC, x::compile);
-        Check.due("kind of " + text, kind, x.error(0));
-        Check.due("place of " + text, place, x.error(1));
-        Check.due("number() after " + text, states, x.number());
-        Check.due("wordIndex(3) after " + text, 2, x.wordIndex(3));
-        Check.due("the buffer after " + text, 0, x.append(0));
-    }
-
     private static void wrongSigns() {
         wrongAt(0, "e", "A", ")", ",", "+", "=a", "*a", "x", "n", "i");
         wrongAt(1, "ab", "a1", "12", "a!", "a(b)", "a)", "a,b", "()", "mn", "mmin", "a#b", "!*", "a&b", "a>b");
@@ -156,16 +120,16 @@ public final class FormulasTest {
         wrongAt(6, "min(a,)");
         wrongAt(7, "min(a,b,c)", "min(a=b=a,b)", "a=b+a*b<1");
         wrongAt(8, "min(a,b)c");
-        faults(2, 4, "ad", 1, 1);
-        faults(2, 2, "ad", 1, 1);
-        faults(2, 2, "md", 1, 1);
-        faults(2, 2, "min(a,b)<a=d", 1, 10);
+        FormulaCheck.faults(2, 4, "ad", 1, 1);
+        FormulaCheck.faults(2, 2, "ad", 1, 1);
+        FormulaCheck.faults(2, 2, "md", 1, 1);
+        FormulaCheck.faults(2, 2, "min(a,b)<a=d", 1, 10);
     }
 
     /** Formulas for three cells whose sign at the place is wrong. */
     private static void wrongAt(int place, String... texts) {
         for (String text : texts) {
-            faults(2, 3, text, 1, place);
+            FormulaCheck.faults(2, 3, text, 1, place);
         }
     }
 
@@ -173,45 +137,45 @@ public final class FormulasTest {
         String[] texts = {"", "a+", "a=", "(", "(a", "!", "m", "mi", "ma", "min", "max", "min(", "min(a", "min(a,",
             "min(a,b", "((a)", "a*(b+c", "!(a", "min(a,(b)", "a<b+"};
         for (String text : texts) {
-            faults(2, 3, text, 2, text.length());
+            FormulaCheck.faults(2, 3, text, 2, text.length());
         }
     }
 
     private static void cellsBeyondWidth() {
-        faults(2, 2, "c", 3, 0);
-        faults(2, 2, "d", 3, 0);
-        faults(2, 3, "a+d", 3, 2);
-        faults(3, 2, "!c", 3, 1);
-        faults(3, 3, "min(a,d", 3, 6);
-        faults(2, 2, "c)", 3, 0);
-        faults(2, 2, "(c+e", 3, 1);
-        faults(2, 2, "a)c", 1, 1);
-        faults(2, 2, "c/0", 3, 0);
-        faults(3, 3, "a=b=d", 1, 3);
+        FormulaCheck.faults(2, 2, "c", 3, 0);
+        FormulaCheck.faults(2, 2, "d", 3, 0);
+        FormulaCheck.faults(2, 3, "a+d", 3, 2);
+        FormulaCheck.faults(3, 2, "!c", 3, 1);
+        FormulaCheck.faults(3, 3, "min(a,d", 3, 6);
+        FormulaCheck.faults(2, 2, "c)", 3, 0);
+        FormulaCheck.faults(2, 2, "(c+e", 3, 1);
+        FormulaCheck.faults(2, 2, "a)c", 1, 1);
+        FormulaCheck.faults(2, 2, "c/0", 3, 0);
+        FormulaCheck.faults(3, 3, "a=b=d", 1, 3);
     }
 
     private static void divisions() {
-        faults(2, 2, "1/0", 4, 0);
-        faults(2, 2, "1%0", 5, 0);
-        faults(2, 2, "a/b", 4, 0);
-        faults(2, 2, "a/(1-b)", 4, 1);
-        faults(2, 2, "a%(1-a)", 5, 2);
-        faults(3, 3, "1/(2-a+2-b+2-c)", 4, 26);
-        faults(3, 2, "1%(2-a)", 5, 6);
-        faults(2, 2, "1/a+1%b", 4, 0);
-        faults(2, 2, "1%a+1/b", 5, 0);
-        faults(2, 2, "1/(1-a)+1%(1-b)", 5, 1);
-        faults(2, 2, "(1/0)%0", 4, 0);
-        faults(2, 2, "1/(1%0)", 5, 0);
-        faults(2, 2, "0*(1%0)+1/0", 5, 0);
-        faults(2, 2, "min(1%0,1/0)", 5, 0);
-        faults(2, 2, "max(1/0,1%0)", 4, 0);
-        faults(2, 2, "1=1/0", 4, 0);
-        faults(2, 2, "!(1/(1-a*b))", 4, 3);
-        faults(2, 2, "0*(1/0)", 4, 0);
-        faults(2, 2, "1/0)", 1, 3);
-        faults(2, 2, "1/0+", 2, 4);
-        faults(2, 2, "1/0/c", 3, 4);
+        FormulaCheck.faults(2, 2, "1/0", 4, 0);
+        FormulaCheck.faults(2, 2, "1%0", 5, 0);
+        FormulaCheck.faults(2, 2, "a/b", 4, 0);
+        FormulaCheck.faults(2, 2, "a/(1-b)", 4, 1);
+        FormulaCheck.faults(2, 2, "a%(1-a)", 5, 2);
+        FormulaCheck.faults(3, 3, "1/(2-a+2-b+2-c)", 4, 26);
+        FormulaCheck.faults(3, 2, "1%(2-a)", 5, 6);
+        FormulaCheck.faults(2, 2, "1/a+1%b", 4, 0);
+        FormulaCheck.faults(2, 2, "1%a+1/b", 5, 0);
+        FormulaCheck.faults(2, 2, "1/(1-a)+1%(1-b)", 5, 1);
+        FormulaCheck.faults(2, 2, "(1/0)%0", 4, 0);
+        FormulaCheck.faults(2, 2, "1/(1%0)", 5, 0);
+        FormulaCheck.faults(2, 2, "0*(1%0)+1/0", 5, 0);
+        FormulaCheck.faults(2, 2, "min(1%0,1/0)", 5, 0);
+        FormulaCheck.faults(2, 2, "max(1/0,1%0)", 4, 0);
+        FormulaCheck.faults(2, 2, "1=1/0", 4, 0);
+        FormulaCheck.faults(2, 2, "!(1/(1-a*b))", 4, 3);
+        FormulaCheck.faults(2, 2, "0*(1/0)", 4, 0);
+        FormulaCheck.faults(2, 2, "1/0)", 1, 3);
+        FormulaCheck.faults(2, 2, "1/0+", 2, 4);
+        FormulaCheck.faults(2, 2, "1/0/c", 3, 4);
     }
 
     private static void error() {
@@ -237,18 +201,18 @@ public final class FormulasTest {
     }
 
     private static void longFormulas() {
-        gives(2, 2, "!".repeat(39) + "a", "1100");
-        gives(2, 2, "(".repeat(19) + "a" + ")".repeat(19), "0011");
-        gives(2, 2, "a+".repeat(19) + "b", "0110");
-        gives(2, 2, "a+(b+(".repeat(4) + "a" + "))".repeat(4), "0011");
-        gives(2, 2, "min(min(min(min(min(a,b),a),b),a),b)", "0001");
-        gives(2, 2, "max(a,max(a,max(a,max(a,max(a,b)))))", "0111");
-        faults(2, 2, "(".repeat(40), 2, 40);
-        faults(2, 2, "!".repeat(40), 2, 40);
-        faults(2, 2, "min(".repeat(10), 2, 40);
-        faults(2, 2, "max(a,".repeat(6) + "maxb", 1, 39);
-        gives(2, 2, "0-9*9*9*9*9*9*9*9*9*9*9*9*9*9*9*9*9*9/9", Math.floorMod(0 - power9(18) / 9, 2) == 0 ? "0000"
-                : "1111");
+        FormulaCheck.gives(2, 2, "!".repeat(39) + "a", "1100");
+        FormulaCheck.gives(2, 2, "(".repeat(19) + "a" + ")".repeat(19), "0011");
+        FormulaCheck.gives(2, 2, "a+".repeat(19) + "b", "0110");
+        FormulaCheck.gives(2, 2, "a+(b+(".repeat(4) + "a" + "))".repeat(4), "0011");
+        FormulaCheck.gives(2, 2, "min(min(min(min(min(a,b),a),b),a),b)", "0001");
+        FormulaCheck.gives(2, 2, "max(a,max(a,max(a,max(a,max(a,b)))))", "0111");
+        FormulaCheck.faults(2, 2, "(".repeat(40), 2, 40);
+        FormulaCheck.faults(2, 2, "!".repeat(40), 2, 40);
+        FormulaCheck.faults(2, 2, "min(".repeat(10), 2, 40);
+        FormulaCheck.faults(2, 2, "max(a,".repeat(6) + "maxb", 1, 39);
+        FormulaCheck.gives(2, 2, "0-9*9*9*9*9*9*9*9*9*9*9*9*9*9*9*9*9*9/9",
+                Math.floorMod(0 - power9(18) / 9, 2) == 0 ? "0000" : "1111");
     }
 
     private static int power9(int exponent) {

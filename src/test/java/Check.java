@@ -142,6 +142,15 @@ final class Check {
         return x;
     }
 
+    /** Rule 110 with words of several lengths, from none to the longest, in the registers. */
+    static PreimageAnalyzer filled() {
+        PreimageAnalyzer x = numbered(2, 3, 110);
+        x.setWord(1, 1, 1);
+        x.setWord(2, 8, 77);
+        x.setWord(3, 14, 16382);
+        return x;
+    }
+
     static void end() {
         System.out.println(checks + " checks, " + wrong + " wrong");
         if (wrong != 0 || checks == 0) {

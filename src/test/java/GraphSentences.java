@@ -52,11 +52,15 @@ final class GraphSentences {
 
     private static void emptySetAmongSubsets() {
         Sentences.about("Promise 28", "Returns the number of states, the empty set included if it is one of them.");
+        PreimageAnalyzer x = new PreimageAnalyzer();
         for (int[] size : Check.SIZES) {
+            x.setSize(size[0], size[1]);
             // All nodes and none.
-            Check.due("subsets() of a constant", 2, Check.sized(size[0], size[1]).subsets());
+            Check.due("subsets() of a constant", 2, x.subsets());
+            Check.write(x, "a");
+            x.compile();
             // All nodes alone.
-            Check.due("subsets() of a", 1, Check.formed(size[0], size[1], "a").subsets());
+            Check.due("subsets() of a", 1, x.subsets());
         }
     }
 
@@ -222,6 +226,7 @@ final class GraphSentences {
                     x.setOutput(index, before);
                 }
             }
+            Check.due("has(" + property + ") again", true, x.has(property));
         }
     }
 

@@ -6,14 +6,6 @@ final class PreimageSentences {
     private PreimageSentences() {
     }
 
-    private static PreimageAnalyzer filled() {
-        PreimageAnalyzer x = Check.numbered(2, 3, 110);
-        x.setWord(1, 1, 1);
-        x.setWord(2, 8, 77);
-        x.setWord(3, 14, 16382);
-        return x;
-    }
-
     // Promise 21: preimageCount.
 
     private static void countsOfTheLongestWords() {
@@ -62,7 +54,7 @@ final class PreimageSentences {
 
     private static void noRegisterWithPreimages() {
         Sentences.about("Promise 21", NO_REGISTER);
-        PreimageAnalyzer x = filled();
+        PreimageAnalyzer x = Check.filled();
         Check.refusesOutside(x, 0, 3, "preimageCount", Check.INDEX, register -> x.preimageCount(register, false));
         Check.refusesOutside(x, 0, 3, "preimageCount", Check.INDEX, register -> x.preimageCount(register, true));
     }
@@ -79,6 +71,11 @@ final class PreimageSentences {
         }
         Check.refuses(x, "preimage -1 of 1", Check.ELEMENT, () -> x.preimage(0, false, -1, 1));
         Check.refuses(x, "preimage 5 of 1", Check.ELEMENT, () -> x.preimage(0, false, 5, 1));
+        x.setWord(0, 2, 0b01);
+        int[] ofTwoCells = {0b0001, 0b1001, 0b1110};
+        for (int i = 0; i < 3; i++) {
+            Check.due("preimage " + i + " of 01", ofTwoCells[i], x.preimage(0, false, i, 1));
+        }
         x.setWord(0, 3, 0);
         int[] cyclic = {0b000, 0b111};
         for (int i = 0; i < 2; i++) {
@@ -88,9 +85,37 @@ final class PreimageSentences {
         Check.refuses(x, "cyclic preimage 2", Check.ELEMENT, () -> x.preimage(0, true, 2, 1));
     }
 
+    private static void orderOfPreimages() {
+        Sentences.about("Promise 22", "in their order");
+        for (int[] size : Check.SIZES) {
+            PreimageAnalyzer x = Check.formed(size[0], size[1], "a*b+1");
+            for (int length = 1; length <= 4; length++) {
+                for (int index = 0; index < Model.power(size[0], length); index++) {
+                    x.setWord(0, length, index);
+                    ascending(x, false);
+                    ascending(x, true);
+                }
+            }
+        }
+    }
+
+    /** The preimages of the word in register 0 ascend, and have the word as their image. */
+    private static void ascending(PreimageAnalyzer x, boolean cyclic) {
+        int count = x.preimageCount(0, cyclic);
+        int before = -1;
+        for (int i = 0; i < count; i++) {
+            int index = x.preimage(0, cyclic, i, 1);
+            Check.due("a greater index", true, index > before);
+            x.apply(1, cyclic);
+            Check.due("the length of its image", x.wordLength(0), x.wordLength(1));
+            Check.due("the image of preimage " + i, x.wordIndex(0), x.wordIndex(1));
+            before = index;
+        }
+    }
+
     private static void sameRegister() {
         Sentences.about("Promise 22", "the register into which it is put, possibly the same");
-        PreimageAnalyzer x = filled();
+        PreimageAnalyzer x = Check.filled();
         Check.due("preimage(1, false, 4, 1)", 0b110, x.preimage(1, false, 4, 1));
         Check.due("wordLength(1)", 3, x.wordLength(1));
         Check.due("wordIndex(1)", 0b110, x.wordIndex(1));
@@ -105,7 +130,7 @@ final class PreimageSentences {
 
     private static void noRegisterToReadOrPut() {
         Sentences.about("Promise 22", NO_REGISTER);
-        PreimageAnalyzer x = filled();
+        PreimageAnalyzer x = Check.filled();
         Check.refusesOutside(x, 0, 3, "preimage of", Check.INDEX, register -> x.preimage(register, false, 0, 0));
         Check.refusesOutside(x, 0, 3, "preimage of", Check.INDEX, register -> x.preimage(register, true, 0, 0));
         Check.refusesOutside(x, 0, 3, "preimage into", Check.INDEX, target -> x.preimage(1, false, 0, target));
@@ -156,6 +181,28 @@ final class PreimageSentences {
         Check.refuses(y, "cyclic preimage of the empty word", Check.ELEMENT, () -> y.preimage(2, true, 0, 1));
     }
 
+    private static void preimagesByShifts() {
+        Sentences.about("Promise 22", "Puts a preimage or cyclic preimage of the word in a register into a register.");
+        for (int[] size : Check.SIZES) {
+            int shift = size[1] - 1;
+            PreimageAnalyzer x = Check.formed(size[0], size[1], DescriptionSentences.lastCell(size[1]));
+            for (int length = 1; length <= 14; length++) {
+                x.setWord(0, length, 1);
+                x.preimage(0, true, 0, 1);
+                // The only one has its one shift cells further on than the image, going on at the front behind the end.
+                for (int i = 0; i < length; i++) {
+                    Check.due("cell " + i + " of " + length, i == (length - 1 + shift) % length ? 1 : 0, x.cell(1, i));
+                }
+                if (length + shift <= 14) {
+                    // The first cells are free.
+                    Check.due("the first preimage", 1, x.preimage(0, false, 0, 2));
+                    Check.due("the last preimage", (x.size(3) - 1) * Model.power(size[0], length) + 1,
+                            x.preimage(0, false, x.size(3) - 1, 2));
+                }
+            }
+        }
+    }
+
     // Promise 23: preimagesBetween.
 
     private static void nodesThatOverlap() {
@@ -194,7 +241,7 @@ final class PreimageSentences {
 
     private static void noRegisterBetween() {
         Sentences.about("Promise 23", "Throws `IndexOutOfBoundsException` if there is no such register");
-        PreimageAnalyzer x = filled();
+        PreimageAnalyzer x = Check.filled();
         Check.refusesOutside(x, 0, 3, "preimagesBetween", Check.INDEX, each -> x.preimagesBetween(each, 0, 0));
         Check.refusesOutside(x, 0, 3, "preimagesBetween", Check.INDEX, each -> x.preimagesBetween(each, 3, 3));
     }
@@ -248,7 +295,7 @@ final class PreimageSentences {
 
     private static void noLengthOfWordsWith() {
         Sentences.about("Promise 24", NO_LENGTH);
-        PreimageAnalyzer x = filled();
+        PreimageAnalyzer x = Check.filled();
         for (int count : new int[] {-1, 0, 1, Integer.MAX_VALUE}) {
             Check.refusesOutside(x, 0, 7, "wordsWith", Check.ARGUMENT, length -> x.wordsWith(length, count));
         }
@@ -259,12 +306,20 @@ final class PreimageSentences {
         for (int[] size : Check.SIZES) {
             PreimageAnalyzer x = Check.sized(size[0], size[1]);
             PreimageAnalyzer y = Check.formed(size[0], size[1], "a");
-            for (int length = 0; length <= 7; length++) {
+            for (int length = 7; length >= 0; length--) {
                 Check.due("mostPreimages(" + length + ") of a constant", Model.power(size[0], length + size[1] - 1),
                         x.mostPreimages(length));
                 Check.due("mostPreimages(" + length + ") of a", y.size(3), y.mostPreimages(length));
             }
         }
+        // What calls for longer words and more states leave behind does not count.
+        PreimageAnalyzer z = Check.sized(3, 3);
+        z.setWord(0, 14, 4782968);
+        Check.due("preimageCount(0, false)", 0, z.preimageCount(0, false));
+        z.setSize(2, 2);
+        z.setNumber(15);
+        Check.due("mostPreimages(7)", 256, z.mostPreimages(7));
+        Check.due("wordsWith(7, 256)", 1, z.wordsWith(7, 256));
     }
 
     private static void lastWordWithMostPreimages() {
@@ -281,7 +336,7 @@ final class PreimageSentences {
 
     private static void noLengthOfMostPreimages() {
         Sentences.about("Promise 25", NO_LENGTH);
-        PreimageAnalyzer x = filled();
+        PreimageAnalyzer x = Check.filled();
         Check.refusesOutside(x, 0, 7, "mostPreimages", Check.ARGUMENT, x::mostPreimages);
     }
 
@@ -320,7 +375,7 @@ final class PreimageSentences {
 
     private static void noLengthOfFixedWords() {
         Sentences.about("Promise 26", NO_LENGTH);
-        PreimageAnalyzer x = filled();
+        PreimageAnalyzer x = Check.filled();
         Check.refusesOutside(x, 1, 8, "fixedWords", Check.ARGUMENT, x::fixedWords);
         Check.refuses(x, "fixedWords(0)", Check.ARGUMENT, () -> x.fixedWords(0));
         Check.refuses(x, "fixedWords(9)", Check.ARGUMENT, () -> x.fixedWords(9));

@@ -23,7 +23,7 @@ final class RefusalSentences {
         x.setWord(1, 1, 1);
         x.setWord(2, 9, 300);
         x.setWord(3, 14, 16383);
-        Check.write(x, "1-a*b");
+        Check.write(x, "1-b*a");
         return x;
     }
 
@@ -33,7 +33,7 @@ final class RefusalSentences {
 
     private static PreimageAnalyzer full() {
         PreimageAnalyzer x = ofRule110();
-        Check.write(x, "+1".repeat((FULL - 5) / 2));
+        Check.write(x, "+1".repeat(16) + "*!a");
         return x;
     }
 
@@ -119,8 +119,11 @@ final class RefusalSentences {
             changesNothing(almostFull, "append of four with room for " + room, Check.STATE,
                     x -> x.append(Check.pack("+b*c")));
         }
+        Check.due("append(0) to the full buffer", FULL, full().append(0));
         changesNothing(RefusalSentences::full, "append of a space to the full buffer", Check.ARGUMENT,
                 x -> x.append(Check.pack(" ")));
+        changesNothing(RefusalSentences::full, "append to the full buffer", Check.STATE,
+                x -> x.append(Check.pack("a")));
     }
 
     private static void refusedCallsOfRegisters() {
@@ -216,9 +219,14 @@ final class RefusalSentences {
         Check.refuses(x, "preimage(3, false, -1, 0) of 16 cells", Check.STATE, () -> x.preimage(3, false, -1, 0));
         Check.refuses(x, "inverse(2) of 110", Check.INDEX, () -> x.inverse(2));
         Check.refuses(x, "inverseOutput(-1) of 110", Check.ELEMENT, () -> x.inverseOutput(-1));
-        PreimageAnalyzer full = full();
-        Check.due("append(0)", FULL - 1, full.append(0));
-        Check.refuses(full, "append of ab and a space", Check.ARGUMENT, () -> full.append(Check.pack("ab ")));
+        for (int before = FULL - 4; before <= FULL; before++) {
+            PreimageAnalyzer full = new PreimageAnalyzer();
+            Check.write(full, "!".repeat(before));
+            Check.refuses(full, "append of a wrong byte to " + before, Check.ARGUMENT,
+                    () -> full.append(Check.pack("abc ")));
+            Check.refuses(full, "append of a wrong byte to " + before, Check.ARGUMENT,
+                    () -> full.append(Check.pack("\177abc")));
+        }
         PreimageAnalyzer surjective = rich(2, 3, 90);
         Check.refuses(surjective, "shortestOrphan(4)", Check.INDEX, () -> surjective.shortestOrphan(4));
         PreimageAnalyzer longest = rich(2, 4, 5482);

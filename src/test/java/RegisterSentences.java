@@ -32,7 +32,7 @@ final class RegisterSentences {
 
     private static void noRegisterToSet() {
         Sentences.about("Promise 15", NO_REGISTER);
-        PreimageAnalyzer x = filled();
+        PreimageAnalyzer x = Check.filled();
         Check.refusesOutside(x, 0, 3, "setWord", Check.INDEX, register -> x.setWord(register, 0, 0));
         Check.refusesOutside(x, 0, 3, "setWord", Check.INDEX, register -> x.setWord(register, 14, 16383));
     }
@@ -60,20 +60,11 @@ final class RegisterSentences {
         }
     }
 
-    /** An object with words of several lengths, none of them equal. */
-    private static PreimageAnalyzer filled() {
-        PreimageAnalyzer x = Check.numbered(2, 3, 110);
-        x.setWord(1, 1, 1);
-        x.setWord(2, 8, 77);
-        x.setWord(3, 14, 16382);
-        return x;
-    }
-
     // Promises 16 to 18: wordLength, wordIndex, cell.
 
     private static void noRegisterWithALength() {
         Sentences.about("Promise 16", NO_REGISTER);
-        PreimageAnalyzer x = filled();
+        PreimageAnalyzer x = Check.filled();
         int[] lengths = {0, 1, 8, 14};
         for (int i = 0; i < 4; i++) {
             Check.due("wordLength(" + i + ")", lengths[i], x.wordLength(i));
@@ -100,7 +91,7 @@ final class RegisterSentences {
 
     private static void noRegisterWithAnIndex() {
         Sentences.about("Promise 17", NO_REGISTER);
-        PreimageAnalyzer x = filled();
+        PreimageAnalyzer x = Check.filled();
         int[] indices = {0, 1, 77, 16382};
         for (int i = 0; i < 4; i++) {
             Check.due("wordIndex(" + i + ")", indices[i], x.wordIndex(i));
@@ -125,7 +116,7 @@ final class RegisterSentences {
 
     private static void noRegisterWithCells() {
         Sentences.about("Promise 18", "Throws `IndexOutOfBoundsException` if there is no such register or cell");
-        PreimageAnalyzer x = filled();
+        PreimageAnalyzer x = Check.filled();
         Check.refusesOutside(x, 0, 3, "cell", Check.INDEX, register -> x.cell(register, 0));
     }
 
@@ -160,7 +151,7 @@ final class RegisterSentences {
 
     private static void noRegisterToApply() {
         Sentences.about("Promise 19", NO_REGISTER);
-        PreimageAnalyzer x = filled();
+        PreimageAnalyzer x = Check.filled();
         Check.refusesOutside(x, 0, 3, "apply", Check.INDEX, register -> x.apply(register, false));
         Check.refusesOutside(x, 0, 3, "apply", Check.INDEX, register -> x.apply(register, true));
     }
@@ -222,12 +213,17 @@ final class RegisterSentences {
                 Check.due("orbit(0, 1) of a word that is its own image", 1, x.orbit(0, 1));
             }
         }
+        // A word that never comes again itself, before words that do.
+        PreimageAnalyzer y = Check.numbered(2, 3, 90);
+        y.setWord(0, 7, 1);
+        Check.due("orbit(0, 0) of 0000001", 1, y.orbit(0, 0));
+        Check.due("orbit(0, 1) of 0000001", 7, y.orbit(0, 1));
     }
 
     private static void wordAfterOrbit() {
         Sentences.about("Promise 20", "Follows the word in a register by cyclic images until a word occurs for the "
                 + "second time.");
-        PreimageAnalyzer x = filled();
+        PreimageAnalyzer x = Check.filled();
         String before = Check.stateOf(x);
         x.orbit(2, 0);
         x.orbit(2, 1);
@@ -236,14 +232,14 @@ final class RegisterSentences {
 
     private static void noRegisterForOrbit() {
         Sentences.about("Promise 20", "Throws `IndexOutOfBoundsException` if there is no such register");
-        PreimageAnalyzer x = filled();
+        PreimageAnalyzer x = Check.filled();
         Check.refusesOutside(x, 0, 3, "orbit", Check.INDEX, register -> x.orbit(register, 0));
         Check.refusesOutside(x, 0, 3, "orbit", Check.INDEX, register -> x.orbit(register, 1));
     }
 
     private static void noPartOfAnOrbit() {
         Sentences.about("Promise 20", "or what is not 0 or 1");
-        PreimageAnalyzer x = filled();
+        PreimageAnalyzer x = Check.filled();
         for (int i = 0; i < 4; i++) {
             int register = i;
             Check.refusesOutside(x, 0, 1, "orbit of " + i, Check.INDEX, what -> x.orbit(register, what));

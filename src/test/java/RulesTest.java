@@ -1,6 +1,6 @@
 /** Promises 1 to 7 and 11 to 14: a new object, sizes, outputs, numbers, equivalent rules, composition. */
 public final class RulesTest {
-    private static final int[][] SIZES = {{2, 2}, {2, 3}, {2, 4}, {3, 2}, {3, 3}};
+    private static final int[][] SIZES = Check.SIZES;
     private static final int[] NEIGHBORHOODS = {4, 8, 16, 9, 27};
     private static final int[] NODES = {2, 4, 8, 3, 9};
     private static final long[] RULES = {16, 256, 65536, 19683, 7625597484987L};

@@ -60,7 +60,6 @@ public final class SentencesTest {
         "Replaces the word in a register by its image or its cyclic image.",
         "- `cyclic`: whether it is the cyclic image",
         "Preimages.",
-        "Puts a preimage or cyclic preimage of the word in a register into a register.",
         "- `cyclic`: whether it is a cyclic preimage",
         "Returns the index of the preimage.",
         "- `first`: the node at the beginning",

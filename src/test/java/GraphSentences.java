@@ -409,8 +409,16 @@ final class GraphSentences {
         // The buffer and the error are not saved, so they stay.
         Check.due("append(0)", 3, x.append(0));
         Check.due("error(0)", 2, x.error(0));
+        Check.due("error(1)", 2, x.error(1));
         Check.due("compile()", 4, x.compile());
         Check.due("number()", 90, x.number());
+        x.setSize(2, 4);
+        Check.write(x, "a+d");
+        x.restore();
+        // The formula is read with the width that is restored.
+        Check.fails("compile() of a+d", Check.ARGUMENT, x::compile);
+        Check.due("error(0) of a+d", 3, x.error(0));
+        Check.due("error(1) of a+d", 2, x.error(1));
     }
 
     private static void nothingSaved() {

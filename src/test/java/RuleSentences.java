@@ -52,6 +52,30 @@ final class RuleSentences {
         }
     }
 
+    private static void whatSetSizeLeaves() {
+        Sentences.about("Promise 2", "Sets the number of states and the width. All outputs become 0, and all registers "
+                + "become empty.");
+        PreimageAnalyzer x = Check.formed(2, 3, "b");
+        x.setWord(1, 3, 6);
+        x.save();
+        Check.write(x, "a+d");
+        Check.answer(x::compile);
+        Check.write(x, "b-c");
+        // The sentence names neither the buffer, nor the error, nor what is saved, so they stay.
+        x.setSize(3, 2);
+        Check.due("append(0) behind setSize", 3, x.append(0));
+        Check.due("error(0) behind setSize", 3, x.error(0));
+        Check.due("error(1) behind setSize", 2, x.error(1));
+        // The formula is read with the width that holds when it is compiled.
+        Check.fails("compile() of b-c with width 2", Check.ARGUMENT, x::compile);
+        Check.due("error(0) of b-c with width 2", 3, x.error(0));
+        Check.write(x, "b-c");
+        x.setSize(3, 3);
+        Check.due("compile() of b-c with width 3", 18, x.compile());
+        Check.due("restore() behind setSize", 204, x.restore());
+        Check.due("wordIndex(1) behind restore()", 6, x.wordIndex(1));
+    }
+
     private static void neighborhoodsOfSetSize() {
         Sentences.about("Promise 2", "Returns the number of neighborhoods.");
         int[] counts = {4, 8, 16, 9, 27};
